@@ -138,7 +138,7 @@ public final class ModulePlayer {
         if (!bank.has(s) || !isIn(i, bank.get(s).length) || v < -128 || v > 127) {
             return false;
         }
-        bank.putByte(s, i, v);
+        bank.putByte(bank.get(s), i, v);
         return true;
     }
 
@@ -268,7 +268,10 @@ public final class ModulePlayer {
     }
 
     private static int limit(int value, int least, int greatest) {
-        return Math.max(least, Math.min(greatest, value));
+        if (value < least) {
+            return least;
+        }
+        return value > greatest ? greatest : value;
     }
 
     /** The bytes that a module is read from and written to. */
@@ -390,13 +393,13 @@ public final class ModulePlayer {
             told.loop = 0;
         }
 
-        int getByte(int s, int i) {
-            int at = get(s).from + i;
+        int getByte(Sample told, int i) {
+            int at = told.from + i;
             return isIn(at, MAX_ALL_LENGTHS) ? bytes[at] : 0;
         }
 
-        void putByte(int s, int i, int value) {
-            int at = get(s).from + i;
+        void putByte(Sample told, int i, int value) {
+            int at = told.from + i;
             if (isIn(at, MAX_ALL_LENGTHS)) {
                 bytes[at] = (byte) value;
             }
@@ -609,10 +612,11 @@ public final class ModulePlayer {
                 int length = 2 * tape.pairAt(at + LENGTH_AT);
                 int tune = tape.at(at + TUNE_AT);
                 bank.reshape(s, length, tune > 7 ? tune - 16 : tune, tape.at(at + VOLUME_AT));
-                bank.get(s).start = 2 * tape.pairAt(at + START_AT);
-                bank.get(s).loop = 2 * tape.pairAt(at + LOOP_AT);
+                Sample told = bank.get(s);
+                told.start = 2 * tape.pairAt(at + START_AT);
+                told.loop = 2 * tape.pairAt(at + LOOP_AT);
                 for (int i = 0; i < length; i++) {
-                    bank.putByte(s, i, tape.at(next + i));
+                    bank.putByte(told, i, tape.at(next + i));
                 }
                 next += length;
             }
@@ -665,7 +669,7 @@ public final class ModulePlayer {
                 tape.putPair(at + Reader.START_AT, told.start / 2);
                 tape.putPair(at + Reader.LOOP_AT, told.loop / 2);
                 for (int i = 0; i < told.length; i++) {
-                    tape.put(next + i, bank.getByte(s, i));
+                    tape.put(next + i, bank.getByte(told, i));
                 }
                 next += told.length;
             }
@@ -1091,7 +1095,7 @@ public final class ModulePlayer {
                 sounds = false;
                 return 0;
             }
-            int value = bank.getByte(sample, (int) (place >> 16));
+            int value = bank.getByte(told, (int) (place >> 16));
             place += step;
             if (Sample.loops(told.loop)) {
                 place = wrapped(told);

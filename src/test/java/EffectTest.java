@@ -243,6 +243,15 @@ public final class EffectTest {
         each("form 3", x, HEARD_PERIOD, 428, 428, 443, 431, 413, 422);
         x.play(6);
         each("form 0", x, HEARD_PERIOD, 428, 428, 443, 431, 413, 422);
+        ModulePlayer edge = player();
+        row(edge, 0, Cells.of(428, 1, 14, 0x42));
+        row(edge, 1, Cells.effect(4, 0x18));
+        edge.cell(0, 0, 1, Cells.effect(15, 31));
+        edge.cell(0, 1, 1, Cells.effect(14, 0xE1));
+        edge.play(31 + 1 + 32);
+        Due.is("at 31", edge.channel(0, HEARD_PERIOD), 443);
+        edge.play(1);
+        Due.is("at 32", edge.channel(0, HEARD_PERIOD), 413);
     }
 
     private static void tremolos() {
@@ -262,6 +271,17 @@ public final class EffectTest {
         Due.is("tremplace", x.channel(0, TREMPLACE), 11);
         Due.is("vibplace", x.channel(0, VIBPLACE), 0);
         Due.is("period", x.channel(0, HEARD_PERIOD), 428);
+        ModulePlayer forms = player();
+        row(forms, 0, Cells.of(428, 1, 7, 0x84));
+        // At 0, 8, 16, 24, 32; form 1 (5 modulo 4): 0, 64, 128, 192, 0; form 3: 0, 191, 255, 191, 0.
+        row(forms, 1, Cells.of(0, 0, 14, 0x75));
+        row(forms, 2, Cells.of(428, 0, 7, 0));
+        row(forms, 3, Cells.of(0, 0, 14, 0x73));
+        row(forms, 4, Cells.of(428, 0, 7, 0));
+        forms.play(12);
+        each("form 1", forms, HEARD_VOLUME, 40, 40, 44, 48, 52, 40);
+        forms.play(6);
+        each("form 3", forms, HEARD_VOLUME, 40, 40, 51, 55, 51, 40);
     }
 
     private static void nothingWithoutPeriod() {

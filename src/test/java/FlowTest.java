@@ -20,6 +20,7 @@ public final class FlowTest {
         delays();
         again();
         startsAnew();
+        startForgetsWhatChannelsKeep();
         toldWhilePlayed();
         songToldWhilePlayed();
         Due.end();
@@ -316,6 +317,45 @@ public final class FlowTest {
         at(x, 0, 0);
         Due.is("again", x.now(6), 0);
         Due.is("frame(0, 0)", x.frame(0, 0), 50 * 64);
+    }
+
+    private static void startForgetsWhatChannelsKeep() {
+        ModulePlayer x = quick();
+        x.sample(1, 2000, 0, 32);
+        x.cell(0, 1, 0, Cells.of(428, 1, 9, 5));
+        x.cell(0, 1, 1, Cells.of(428, 1, 3, 5));
+        x.cell(0, 1, 2, Cells.effect(4, 0x88));
+        x.cell(0, 1, 3, Cells.effect(7, 0x88));
+        x.cell(0, 2, 2, Cells.effect(MORE, 0x42));
+        x.cell(0, 2, 3, Cells.effect(MORE, 0x72));
+        x.cell(0, 3, 2, Cells.effect(MORE, 0x62));
+        x.cell(0, 3, 3, Cells.effect(MORE, 0xE3));
+        x.play(4);
+        Due.is("loopleft", x.channel(2, 13), 2);
+        x.start();
+        for (int row = 0; row < 4; row++) {
+            for (int c = 0; c < 4; c++) {
+                x.cell(0, row, c, 0);
+            }
+        }
+        x.cell(0, 0, 0, Cells.of(856, 1, 9, 0));
+        x.cell(0, 0, 1, Cells.note(300, 1));
+        x.cell(0, 1, 1, Cells.of(320, 0, 3, 0));
+        x.cell(0, 0, 2, Cells.of(300, 1, 4, 0));
+        x.cell(0, 0, 3, Cells.of(300, 1, 7, 0));
+        x.play(1);
+        // 40 FRAMES at 2000 a second with PERIOD 856 take 82.87 bytes.
+        Due.is("offset", x.channel(0, 3), 82);
+        x.play(5);
+        Due.is("vib and form", x.channel(2, 5), 300);
+        Due.is("vibplace", x.channel(2, 10), 0);
+        Due.is("trem and form", x.channel(3, 6), 32);
+        Due.is("tremplace", x.channel(3, 11), 0);
+        x.play(6);
+        at(x, 0, 1);
+        Due.is("tick", x.now(2), 5);
+        Due.is("porta", x.channel(1, 2), 300);
+        Due.is("again", x.now(6), 0);
     }
 
     private static void toldWhilePlayed() {

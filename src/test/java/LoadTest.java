@@ -13,6 +13,7 @@ public final class LoadTest {
         reads();
         sampleNumbersHaveFiveBits();
         whatTheSongDoesNotNeedIsEmpty();
+        otherSamplesComeInTheirPlace();
         playsFromTheBegin();
         Due.end();
     }
@@ -277,6 +278,34 @@ public final class LoadTest {
         Due.is("place 0", x.tape(952), 1);
         for (int i = 953; i < 1080; i++) {
             Due.is("tape(" + i + ")", x.tape(i), 0);
+        }
+    }
+
+    private static void otherSamplesComeInTheirPlace() {
+        ModulePlayer x = plain(2108 + 4000);
+        x.sample(1, 2000, 0, 9);
+        x.sample(2, 2000, 0, 9);
+        x.poke(951, 5);
+        pokePair(x, field(30, 22), 1000);
+        pokePair(x, field(31, 22), 1000);
+        x.poke(field(31, 24), 8);
+        x.poke(field(31, 25), 7);
+        pokePair(x, field(31, 28), 900);
+        x.poke(2108, 1);
+        x.poke(2108 + 1999, 2);
+        x.poke(2108 + 2000, 3);
+        x.poke(2108 + 3999, 4);
+        loads("4000 bytes", x, 1);
+        x.end(0);
+        Due.is("save()", x.save(), 2108 + 4000);
+        int[][] want = {
+            {42, 0}, {43, 0}, {45, 0}, {72, 0}, {73, 0}, {field(30, 22), 3}, {field(30, 23), 232},
+            {field(31, 22), 3}, {field(31, 23), 232}, {field(31, 24), 8}, {field(31, 25), 7},
+            {field(31, 27), 0}, {field(31, 28), 3}, {field(31, 29), 132}, {951, 5},
+            {2108, 1}, {2108 + 1999, 2}, {2108 + 2000, 3}, {2108 + 3999, 4},
+        };
+        for (int[] w : want) {
+            Due.is("tape(" + w[0] + ")", x.tape(w[0]), w[1]);
         }
     }
 

@@ -6,6 +6,7 @@ public final class MixTest {
         aLoopOfTwoIsNone();
         loops();
         loopFromBehindIt();
+        justTheEnd();
         sides();
         mutes();
         sums();
@@ -108,6 +109,47 @@ public final class MixTest {
         Due.is("frame 2", x.frame(2, 0), 0);
         Due.is("frame 3", x.frame(3, 0), 88);
         Due.is("sounds", x.channel(0, 4), 1);
+    }
+
+    /** With this rate, PERIOD and TEMPO a TICK has 240 FRAMES and takes 150 bytes, to the bit. */
+    private static ModulePlayer even(int length) {
+        ModulePlayer x = new ModulePlayer(12500);
+        x.sample(1, length, 0, 1);
+        x.sample(2, 4, 0, 1);
+        for (int i = 0; i < 4; i++) {
+            x.wave(2, i, 99);
+        }
+        x.cell(0, 0, 0, Cells.note(454, 1));
+        x.cell(0, 0, 1, Cells.effect(15, 130));
+        return x;
+    }
+
+    private static void place(String what, ModulePlayer x, int bytes, int sounds) {
+        Due.is(what + ": place", x.channel(0, 3), bytes);
+        Due.is(what + ": place modulo 65536", x.channel(0, 9), 0);
+        Due.is(what + ": sounds", x.channel(0, 4), sounds);
+    }
+
+    private static void justTheEnd() {
+        ModulePlayer x = even(150);
+        x.play(1);
+        Due.is("frames", x.now(3), 240);
+        place("the end", x, 150, 0);
+        ModulePlayer y = even(152);
+        y.play(1);
+        place("ahead of the end", y, 150, 1);
+        y.sample(1, 150, 0, 1);
+        y.play(1);
+        place("shorter meanwhile", y, 150, 0);
+        Due.is("it adds nothing", y.frame(0, 0), 0);
+        ModulePlayer z = even(200);
+        z.loop(1, 50, 100);
+        z.play(1);
+        place("the end of the loop", z, 50, 1);
+        z.loop(1, 50, 102);
+        z.start();
+        z.play(1);
+        place("ahead of the end of the loop", z, 150, 1);
     }
 
     /** Channels 0 to 3 with bytes of 1, 10, 100 and 127. */

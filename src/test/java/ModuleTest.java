@@ -144,6 +144,8 @@ public final class ModuleTest {
                 Due.is("cellOf another", x.cellOf(pattern, row, (pattern + row + 1) % 4), 0);
             }
         }
+        Due.yes("empty again", x.cell(0, 0, 0, 0));
+        Due.is("cellOf", x.cellOf(0, 0, 0), 0);
         Due.yes("greatest", x.cell(7, 63, 3, 536870911));
         Due.no("above it", x.cell(7, 63, 3, 536870912));
         Due.no("below 0", x.cell(7, 63, 3, -1));
