@@ -307,6 +307,17 @@ public final class LoadTest {
         for (int[] w : want) {
             Due.is("tape(" + w[0] + ")", x.tape(w[0]), w[1]);
         }
+        // The new samples lie ahead of the old ones, and both would not fit at once.
+        for (int i = 0; i < 2; i++) {
+            pokePair(x, field(30 + i, 22), 0);
+            pokePair(x, field(30 + i, 28), 0);
+            pokePair(x, field(1 + i, 22), 1000);
+        }
+        loads("4000 bytes ahead", x, 1);
+        Due.is("save()", x.save(), 2108 + 4000);
+        Due.is("length of 1", x.tape(field(1, 23)), 232);
+        Due.is("length of 31", x.tape(field(31, 23)), 0);
+        Due.is("last byte", x.tape(2108 + 3999), 4);
     }
 
     private static void playsFromTheBegin() {
