@@ -2,14 +2,20 @@
 final class Due {
     private static int wrong = 0;
     private static int asked = 0;
+    private static String heading = "";
 
     private Due() { }
+
+    /** What is asked from now on is told with this ahead of it. */
+    static void under(String text) {
+        heading = text.isEmpty() ? "" : "\"" + text + "\": ";
+    }
 
     static void is(String call, long got, long want) {
         asked++;
         if (got != want) {
             wrong++;
-            System.out.println(call + " answered " + got + ", due is " + want);
+            System.out.println(heading + call + " answered " + got + ", due is " + want);
         }
     }
 
