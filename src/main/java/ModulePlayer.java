@@ -563,8 +563,9 @@ public final class ModulePlayer {
         }
 
         private static int bytesNeeded(Tape tape) {
+            int length = tape.at(SONG_LENGTH_AT);
             int greatest = 0;
-            for (int i = 0; i < tape.at(SONG_LENGTH_AT); i++) {
+            for (int i = 0; i < length && i < PLACES; i++) {
                 greatest = Math.max(greatest, tape.at(PLACES_AT + i));
             }
             int needed = patternsEnd(greatest + 1);

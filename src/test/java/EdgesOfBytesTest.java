@@ -56,6 +56,7 @@ public final class EdgesOfBytesTest {
     private static void calls() {
         Sentence.holds("The TAPE (which stays) is read: the MODULE is that; PLAYING is at its begin.",
                 EdgesOfBytesTest::moduleIsThat);
+        Sentence.holds("is read: the MODULE is that", EdgesOfBytesTest::otherSamples);
         Sentence.holds("How many PATTERNS it has; NONE with a FAULT.", EdgesOfBytesTest::howManyPatterns);
         Sentence.holds("Of the latest load(): 0 the FAULT, 1 the place (0 and NONE if it was right, or ahead of any).",
                 EdgesOfBytesTest::latestLoad);
@@ -121,6 +122,41 @@ public final class EdgesOfBytesTest {
         for (int at : any) {
             Due.is("written: tape(" + at + ")", x.tape(at), 0);
         }
+        for (int from = 0; from < 950; from += 100) {
+            ModulePlayer y = allAny();
+            loads("all of them any", y, 1);
+            y.end(0);
+            Due.is("save()", y.save(), ONE_PATTERN + 2);
+            for (int i = from; i < from + 100; i++) {
+                int want = i == field(31, LENGTH) + 1 ? 1 : i == 950 || i == 951 ? i - 949 : 0;
+                Due.is("written: tape(" + i + ")", y.tape(i), want);
+            }
+            Due.is("the sample's byte", y.tape(ONE_PATTERN), 5);
+        }
+    }
+
+    /** A module with two bytes of sample 31, and 255 wherever any byte may be. */
+    private static ModulePlayer allAny() {
+        ModulePlayer x = new ModulePlayer(8000);
+        for (int i = 0; i < 54; i++) {
+            x.feed(-1, -1, -1, -1, -1);
+        }
+        for (int s = 1; s <= 31; s++) {
+            for (int i = LENGTH; i < 30; i++) {
+                x.poke(field(s, i), 0);
+            }
+        }
+        x.poke(field(31, LENGTH) + 1, 1);
+        x.poke(950, 1);
+        x.poke(951, 2);
+        x.poke(952, 0);
+        int[] mark = {77, 46, 75, 46};
+        for (int i = 0; i < 4; i++) {
+            x.poke(1080 + i, mark[i]);
+        }
+        x.poke(ONE_PATTERN, 5);
+        x.poke(ONE_PATTERN + 1, 0);
+        return x;
     }
 
     private static void halfLength() {
@@ -574,6 +610,34 @@ public final class EdgesOfBytesTest {
         }
     }
 
+    /** 4000 bytes of other samples, ahead of or behind the older ones, which have 4000 too. */
+    private static void otherSamples() {
+        for (int first : new int[] {1, 30}) {
+            ModulePlayer x = plain(ONE_PATTERN + 4000);
+            x.sample(15, 2000, 1, 9);
+            x.sample(16, 2000, 1, 9);
+            x.wave(15, 0, 7);
+            x.wave(16, 1999, 7);
+            pair(x, field(first, LENGTH), 1000);
+            pair(x, field(first + 1, LENGTH), 1000);
+            x.poke(ONE_PATTERN, 3);
+            x.poke(ONE_PATTERN + 3999, 4);
+            loads("4000 bytes from sample " + first + " on", x, 1);
+            Due.no("no older one", x.wave(15, 0, 0));
+            Due.no("4002", x.sample(16, 2, 0, 0));
+            x.end(0);
+            Due.is("save()", x.save(), ONE_PATTERN + 4000);
+            for (int s = 1; s <= 31; s++) {
+                int half = s == first || s == first + 1 ? 1000 : 0;
+                Due.is("half the length of " + s, pairAt(x, field(s, LENGTH)), half);
+                Due.is("the volume of " + s, x.tape(field(s, VOLUME)), 0);
+                Due.is("the tune of " + s, x.tape(field(s, TUNE)), 0);
+            }
+            Due.is("the first byte", x.tape(ONE_PATTERN), 3);
+            Due.is("the last byte", x.tape(ONE_PATTERN + 3999), 4);
+        }
+    }
+
     private static void howManyPatterns() {
         for (int patterns = 1; patterns <= 7; patterns++) {
             ModulePlayer x = plain(HEAD + 7 * PATTERN);
@@ -628,12 +692,28 @@ public final class EdgesOfBytesTest {
         for (int i = 0; i < 60; i++) {
             Due.is("tape(" + i + ")", x.tape(i), 0);
         }
+        onAFullTape();
         Due.is("feed comes behind it", x.feed(0, 0, 0, 0, 0), ONE_PATTERN + 20);
         x.end(3);
         Due.is("save() to a shorter tape", x.save(), ONE_PATTERN);
         x.play(3);
         Due.is("save() while it plays", x.save(), ONE_PATTERN);
         Due.is("it plays on", x.play(1), 4);
+    }
+
+    /** Nothing of the older bytes is left, wherever they were. */
+    private static void onAFullTape() {
+        for (int from = 0; from < ONE_PATTERN; from += 50) {
+            ModulePlayer x = new ModulePlayer(8000);
+            for (int i = 0; i < 450; i++) {
+                x.feed(-1, -1, -1, -1, -1);
+            }
+            Due.is("save() to a full tape", x.save(), ONE_PATTERN);
+            for (int i = from; i < from + 50; i++) {
+                int mark = i == 950 ? 1 : i == 1080 ? 77 : i == 1082 ? 75 : i == 1081 || i == 1083 ? 46 : 0;
+                Due.is("tape(" + i + ")", x.tape(i), i < ONE_PATTERN ? mark : -1);
+            }
+        }
     }
 
     private static void moreThan9000() {

@@ -251,13 +251,30 @@ public final class EdgesOfMixingTest {
     private static void loops() {
         int[][] startLoopPlace = {
             {0, 150, 0}, {50, 100, 50}, {146, 4, 146}, {0, 152, 150}, {50, 102, 150}, {148, 4, 150},
-            {0, 148, 2}, {50, 98, 52}, {0, 74, 2}, {0, 76, 74}, {0, 10, 0}, {2, 4, 2}, {0, 4, 2},
+            {0, 148, 2}, {50, 98, 52}, {0, 74, 2}, {0, 76, 74}, {160, 30, 150}, {0, 10, 0}, {2, 4, 2}, {0, 4, 2},
         };
         for (int[] w : startLoopPlace) {
             ModulePlayer x = even(200);
             x.loop(1, w[0], w[1]);
             x.play(1);
             at("start " + w[0] + " loop " + w[1], x, w[2], 1);
+        }
+        // Ahead of START nothing is less, also where START is above LOOP.
+        ModulePlayer ahead = new ModulePlayer(8000);
+        ahead.sample(1, 20, 0, 1);
+        for (int i = 0; i < 20; i++) {
+            ahead.wave(1, i, i + 1);
+        }
+        ahead.loop(1, 12, 4);
+        ahead.cell(0, 0, 0, Cells.note(428, 1));
+        ahead.play(1);
+        long due = 0;
+        for (int i = 0; i < 160; i++) {
+            Due.is("frame " + i + " of a loop behind 12", ahead.frame(i, 0), (due >> 16) + 1);
+            due += 67888;
+            while (due >= 16 * 65536) {
+                due -= 4 * 65536;
+            }
         }
         ModulePlayer whole = even(150);
         whole.loop(1, 0, 150);
@@ -309,6 +326,18 @@ public final class EdgesOfMixingTest {
             z.play(3);
             Due.is("later too", z.channel(0, 3), 148);
             Due.is("still silent", z.channel(0, 4), 0);
+            for (int i = 0; i < 240; i++) {
+                Due.is("nothing of an earlier tick in frame " + i, z.frame(i, 0), 0);
+            }
+        }
+        // At PERIOD 113 the last FRAME of a TICK goes from 623.85 to 627.77.
+        for (int length : new int[] {624, 626, 628}) {
+            ModulePlayer x = new ModulePlayer(8000);
+            x.sample(1, length, 0, 0);
+            x.cell(0, 0, 0, Cells.note(113, 1));
+            x.play(1);
+            Due.is("its place", x.channel(0, 3), 627);
+            Due.is("beyond " + length + " with the last frame", x.channel(0, 4), length == 628 ? 1 : 0);
         }
     }
 

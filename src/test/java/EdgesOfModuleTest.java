@@ -427,6 +427,10 @@ public final class EdgesOfModuleTest {
         x.song(128, 0);
         Due.is("place 1", saved(x, 953), 2);
         Due.is("place 127", saved(x, 1079), 1);
+        x.song(1, 0);
+        x.song(128, 0);
+        Due.is("place 1 behind a shorter song", saved(x, 953), 2);
+        Due.is("place 127 behind a shorter song", saved(x, 1079), 1);
         Due.yes("place(127, 7)", x.place(127, 7));
         Due.is("eight patterns are too many bytes", x.save(), -1);
         Due.yes("place(127, 0)", x.place(127, 0));

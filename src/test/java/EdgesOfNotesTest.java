@@ -144,6 +144,12 @@ public final class EdgesOfNotesTest {
             x.play(1);
             is("on the delayed tick " + y, x, PERIOD, y < 12 ? 428 : 0);
         }
+        ModulePlayer waves = with(Cells.of(428, 1, 4, 0x88), Cells.of(300, 0, 14, 0xD2));
+        waves.play(8);
+        is("ahead of the late note", waves, VIBPLACE, 40);
+        waves.play(1);
+        is("with the late note", waves, VIBPLACE, 0);
+        is("from its begin", waves, PLACE, 160 * 96854 >> 16);
         ModulePlayer other = with(Cells.of(428, 1, 14, 0xC2), Cells.of(300, 0, 13, 0xD2));
         other.play(1);
         is("x 12 is on tick 0", other, PERIOD, 428);
@@ -262,6 +268,16 @@ public final class EdgesOfNotesTest {
         x.play(1);
         is("vibplace with a note", x, VIBPLACE, 0);
         is("tremplace with a note", x, TREMPLACE, 0);
+        for (int form = 0; form < 4; form++) {
+            ModulePlayer y = with(Cells.of(428, 1, 14, 0x40 + form), Cells.effect(14, 0x70 + form), Cells.effect(4, 0x88),
+                    Cells.effect(7, 0x99), Cells.note(428, 0));
+            y.play(24);
+            is("vibplace of form " + form, y, VIBPLACE, 40);
+            is("tremplace of form " + form, y, TREMPLACE, 45);
+            y.play(1);
+            is("vibplace of form " + form + " with a note", y, VIBPLACE, 0);
+            is("tremplace of form " + form + " with a note", y, TREMPLACE, 0);
+        }
     }
 
     private static void eachKeepsItsOwn() {
@@ -484,6 +500,9 @@ public final class EdgesOfNotesTest {
             is("the next one has this", x, PERIOD, 400 - 400 * tune / 138);
             x.play(6);
             is("a sample brings its own", x, TUNE, 3);
+            ModulePlayer target = with(Cells.of(400, 2, 14, 0x50 + y), Cells.of(400, 0, 3, 1));
+            target.play(7);
+            is("the next target has this", target, TARGET, 400 - 400 * tune / 138);
         }
     }
 
@@ -512,6 +531,7 @@ public final class EdgesOfNotesTest {
                 x.play(2);
             }
             is("loopleft of " + y, x, LOOPLEFT, 0);
+            is("looprow stays", x, LOOPROW, 1);
             x.play(1);
             Due.is("row behind the loop", x.now(1), 4);
         }
@@ -564,6 +584,13 @@ public final class EdgesOfNotesTest {
             Due.is("its last tick", x.now(2), 6 * (1 + y) - 1);
             x.play(1);
             Due.is("the next row", x.now(1), 1);
+            // By CHANNELS: it is what the last one tells.
+            ModulePlayer two = with(Cells.effect(14, 0xE3));
+            two.cell(0, 0, 2, Cells.effect(14, 0xE0 + y));
+            two.play(6 * (1 + y));
+            Due.is("the row of delay 3, then " + y, two.now(1), 0);
+            two.play(1);
+            Due.is("the next row of delay 3, then " + y, two.now(1), 1);
         }
     }
 

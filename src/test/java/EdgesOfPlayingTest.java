@@ -86,6 +86,8 @@ public final class EdgesOfPlayingTest {
     /** Players at the begin: a new one, one behind load() and one behind start(), with the same empty module. */
     private static ModulePlayer[] beginners() {
         ModulePlayer loaded = Busy.player();
+        loaded.play(142);
+        at("in the midst", loaded, 2, 0);
         ModulePlayer empty = new ModulePlayer(2000);
         empty.save();
         int[] head = {950, 1080, 1081, 1082, 1083};
@@ -97,6 +99,8 @@ public final class EdgesOfPlayingTest {
         Due.is("load()", loaded.load(), 1);
         loaded.mute(2, false);
         ModulePlayer started = Busy.player();
+        started.play(142);
+        Due.is("again in the midst", started.now(6), 10);
         for (int s : new int[] {1, 31}) {
             started.sample(s, 0, 0, 0);
         }
@@ -144,51 +148,77 @@ public final class EdgesOfPlayingTest {
         }
     }
 
-    private static void keepNothing() {
-        // The busy player had VIB, TREM, their forms, PORTA and LOOPROW; OFFSET comes behind them.
-        for (ModulePlayer x : beginners()) {
-            x.sample(1, 2000, 0, 32);
-            x.cell(0, 0, 0, Cells.of(856, 1, 9, 0));
-            x.cell(0, 0, 1, Cells.note(300, 1));
-            x.cell(0, 1, 1, Cells.of(320, 0, 3, 0));
-            x.cell(0, 0, 2, Cells.of(300, 1, 4, 0));
-            x.cell(0, 0, 3, Cells.of(300, 1, 7, 0));
-            x.cell(0, 2, 2, Cells.effect(4, 0x8F));
-            x.cell(0, 2, 3, Cells.effect(7, 0x88));
-            x.cell(0, 3, 0, Cells.effect(MORE, 0x61));
-            x.play(1);
-            // 40 FRAMES at 2000 a second with PERIOD 856 take 82.87 bytes.
-            Due.is("offset", x.channel(0, 3), 82);
-            x.play(5);
-            Due.is("vib", x.channel(2, 5), 300);
-            Due.is("vib", x.channel(2, 10), 0);
-            Due.is("trem", x.channel(3, 6), 32);
-            Due.is("trem", x.channel(3, 11), 0);
-            x.play(6);
-            Due.is("porta", x.channel(1, 2), 300);
-            x.play(3);
-            // At 8 the WAVE of form 0 is 191: 15 times it by 128, 8 times it by 64.
-            Due.is("vibform", x.channel(2, 5), 322);
-            Due.is("tremform", x.channel(3, 6), 55);
-            x.play(4);
-            Due.is("loopleft", x.channel(0, 13), 1);
-            x.play(6);
-            at("looprow", x, 0, 0);
+    /** All CHANNELS are told the same. */
+    private static void tellRow(ModulePlayer x, int row, int cell) {
+        for (int c = 0; c < 4; c++) {
+            x.cell(0, row, c, cell);
         }
-        ModulePlayer y = quick();
-        y.sample(1, 2000, 0, 32);
-        y.cell(0, 1, 0, Cells.of(428, 1, 9, 5));
-        y.cell(0, 1, 1, Cells.of(428, 1, 3, 5));
-        y.play(2);
-        y.start();
-        y.cell(0, 0, 0, Cells.of(856, 1, 9, 0));
-        y.cell(0, 0, 1, Cells.note(300, 1));
-        y.cell(0, 0, 3, 0);
-        y.cell(0, 1, 1, Cells.of(320, 0, 3, 0));
-        y.play(1);
-        Due.is("offset behind start()", y.channel(0, 3), 82);
-        y.play(11);
-        Due.is("porta behind start()", y.channel(1, 2), 300);
+    }
+
+    /** A player whose CHANNELS keep something of all that they can keep. */
+    private static ModulePlayer keeper() {
+        ModulePlayer x = new ModulePlayer(8000);
+        x.sample(1, 2000, 0, 40);
+        int[] cells = {Cells.of(400, 1, 9, 2), Cells.of(300, 0, 3, 9), Cells.effect(4, 0x8F), Cells.effect(7, 0x84),
+            Cells.effect(MORE, 0x42), Cells.effect(MORE, 0x72), Cells.effect(MORE, 0x60), Cells.effect(MORE, 0x63)};
+        for (int row = 0; row < cells.length; row++) {
+            tellRow(x, row, cells[row]);
+        }
+        x.play(48);
+        Due.is("loopleft", x.channel(3, 13), 3);
+        return x;
+    }
+
+    private static void keepNothing() {
+        for (boolean loads : new boolean[] {false, true}) {
+            for (int number : new int[] {0x80, 0x08}) {
+                ModulePlayer x = keeper();
+                if (loads) {
+                    x.save();
+                    x.load();
+                } else {
+                    x.start();
+                }
+                keptNothing(x, number);
+            }
+        }
+    }
+
+    /** What was kept would be heard, since each CELL tells only one of two numbers, or none. */
+    private static void keptNothing(ModulePlayer x, int number) {
+        int[] cells = {Cells.of(856, 1, 9, 0), Cells.of(800, 0, 3, 0), Cells.effect(4, number), Cells.effect(7, number),
+            Cells.of(856, 0, 4, 0x8F), Cells.of(856, 0, 7, 0x84), 0, 0};
+        for (int row = 0; row < cells.length; row++) {
+            tellRow(x, row, cells[row]);
+        }
+        for (int c = 0; c < 4; c++) {
+            Due.is("looprow", x.channel(c, 12), 0);
+            Due.is("loopleft", x.channel(c, 13), 0);
+        }
+        x.play(1);
+        // A TICK of PERIOD 856 takes 82.87 bytes.
+        each("offset", x, 3, 82);
+        x.play(11);
+        each("porta", x, 2, 856);
+        x.play(3);
+        each("vib", x, 5, 856);
+        each("vib", x, 10, number == 0x80 ? 16 : 0);
+        x.play(6);
+        each("trem", x, 6, 40);
+        each("trem", x, 11, number == 0x80 ? 16 : 0);
+        x.play(6);
+        // At 8 the WAVE of form 0 is 191: 15 times it by 128, 4 times it by 64.
+        each("vibform", x, 5, 878);
+        x.play(6);
+        each("tremform", x, 6, 51);
+        x.play(10);
+        at("no loop and no delay", x, 0, 7);
+    }
+
+    private static void each(String name, ModulePlayer x, int what, int want) {
+        for (int c = 0; c < 4; c++) {
+            Due.is(name + " of " + c, x.channel(c, what), want);
+        }
     }
 
     private static void noRowWasBegun() {
@@ -396,6 +426,14 @@ public final class EdgesOfPlayingTest {
         goes("a restart told ahead of the next row", y, 1, 0, 1, 1);
         y.song(1, 0);
         goes("a shorter song", y, 0, 0);
+        ModulePlayer z = new ModulePlayer(2000);
+        z.song(3, 0);
+        z.cell(0, 0, 0, Cells.effect(JUMP, 2));
+        z.play(7);
+        z.song(1, 0);
+        at("a shorter song leaves the row", z, 2, 0);
+        z.play(5);
+        at("up to its last tick", z, 2, 0);
     }
 
     private static void samplesAtOnce() {

@@ -210,6 +210,14 @@ public final class EdgesOfTicksTest {
         each("without a sample", bare, SOUNDS, 0, 0, 0, 0, 0, 0);
         each("without a period", bare, SOUNDS, 1, 1, 1, 1, 1, 1);
         is("it goes nowhere", bare, PLACE, 0);
+        // Nothing but PLACE and SOUNDS is changed by it.
+        ModulePlayer all = with(Cells.of(856, 1, 4, 0x88), Cells.effect(7, 0x99), Cells.effect(12, 7),
+                Cells.effect(14, 0x91));
+        all.play(24);
+        is("period stays", all, PERIOD, 856);
+        is("volume stays", all, VOLUME, 7);
+        is("vibplace stays", all, VIBPLACE, 40);
+        is("tremplace stays", all, TREMPLACE, 45);
     }
 
     private static void cuts() {
@@ -302,6 +310,11 @@ public final class EdgesOfTicksTest {
                 is("period stays", y, PERIOD, note);
             }
         }
+        for (int note = 113; note <= 856; note++) {
+            int once = note * 17843 / 18904;
+            ModulePlayer x = with(Cells.of(note, 1, 0, 0x12));
+            each("note " + note, x, HEARD_PERIOD, note, once, once * 17843 / 18904);
+        }
         // Eleven times less 113 is 56, twelve times 52.
         ModulePlayer least = with(Cells.of(113, 1, 0, 0xBC));
         each("least", least, HEARD_PERIOD, 113, 56, 54);
@@ -336,6 +349,12 @@ public final class EdgesOfTicksTest {
             x.play(32);
             is("less than " + note, x, HEARD_PERIOD, note - 29);
         }
+        // A CHANNEL that is silent vibrates also, having a PERIOD.
+        ModulePlayer silent = longRows(Cells.of(428, 0, 14, 0x42), Cells.effect(4, 0x1F));
+        silent.play(31 + 2);
+        is("silent", silent, SOUNDS, 0);
+        is("its period", silent, HEARD_PERIOD, 457);
+        is("its vibplace", silent, VIBPLACE, 1);
         ModulePlayer first = with(Cells.of(428, 1, 14, 0x42), Cells.effect(4, 0x1F));
         first.play(7);
         is("tick 0 has none", first, HEARD_PERIOD, 428);

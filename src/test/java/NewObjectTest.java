@@ -30,7 +30,7 @@ public final class NewObjectTest {
         }
         Due.no("wave(1, 0, 0)", x.wave(1, 0, 0));
         Due.is("save()", x.save(), 2108);
-        for (int i = 0; i < 2108; i++) {
+        for (int i = 930; i < 1090; i++) {
             int want = i == 950 ? 1 : i == 1080 ? 77 : i == 1082 ? 75 : i == 1081 || i == 1083 ? 46 : 0;
             Due.is("tape(" + i + ")", x.tape(i), want);
         }

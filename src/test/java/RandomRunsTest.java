@@ -1,7 +1,9 @@
 /** Random runs of calls on the class and on PlainPlayer: all answers are the same, and none throws. */
 public final class RandomRunsTest {
-    private static final int RUNS = 600;
-    private static final int STEPS = 128;
+    private static final int RUNS = 4000;
+    /** No more is promised of one object. */
+    private static final int CALLS_A_RUN = 512;
+    private static final int CALLS_AT_THE_END = 60;
     private static final int[] STRANGE = {
         Integer.MIN_VALUE, Integer.MIN_VALUE + 1, -65536, -257, -256, -129, -128, -9, -8, -2, -1, 0, 1, 2, 3, 4,
         7, 8, 15, 16, 31, 32, 63, 64, 65, 127, 128, 129, 255, 256, 399, 400, 401, 1999, 2000, 2001, 2002,
@@ -12,11 +14,12 @@ public final class RandomRunsTest {
     private final PlainPlayer plain;
     private final String name;
     private long seed;
+    private int calls;
 
     private RandomRunsTest(int run) {
         name = "run " + run + ": ";
         seed = run * 2862933555777941757L + 3037000493L;
-        int rate = below(3) == 0 ? strange() : 2000 + below(3) * below(7001);
+        int rate = below(4) == 0 ? strange() : 2000 + below(3) * below(7001);
         mine = new ModulePlayer(rate);
         plain = new PlainPlayer(rate);
     }
@@ -24,14 +27,19 @@ public final class RandomRunsTest {
     public static void main(String[] args) {
         for (int run = 0; run < RUNS; run++) {
             RandomRunsTest test = new RandomRunsTest(run);
-            test.buildModule();
             if (run % 3 == 0) {
+                test.feedModule();
+            } else {
+                test.tellModule();
+            }
+            if (run % 4 == 0) {
                 test.breakTape();
             }
-            for (int step = 0; step < STEPS; step++) {
+            // The dearest step asks a dozen times.
+            while (test.calls < CALLS_A_RUN - CALLS_AT_THE_END - 12) {
                 test.oneCall();
             }
-            test.compareAll();
+            test.compareBytes();
         }
         Due.end();
     }
@@ -52,11 +60,12 @@ public final class RandomRunsTest {
     }
 
     private void is(String call, long got, long want) {
+        calls++;
         Due.is(name + call, got, want);
     }
 
     private void is(String call, boolean got, boolean want) {
-        Due.is(name + call, got ? 1 : 0, want ? 1 : 0);
+        is(call, got ? 1 : 0, want ? 1 : 0);
     }
 
     private int cellNumber() {
@@ -80,18 +89,18 @@ public final class RandomRunsTest {
         return Cells.of(period, sample, effect, number);
     }
 
-    private void buildModule() {
+    private void tellModule() {
         for (int s = 1; s <= 5; s++) {
-            makeSample(s);
+            tellSample(s);
         }
         int patterns = 1 + below(3);
-        int busy = 1 + below(4);
-        for (int p = 0; p < patterns; p++) {
-            for (int row = 0; row < 64; row += 1 + below(busy)) {
-                for (int c = 0; c < 4; c++) {
-                    makeCell(p, row, c);
-                }
-            }
+        int rows = 4 + below(60);
+        for (int i = 0; i < 120; i++) {
+            int pattern = below(patterns);
+            int row = below(3) == 0 ? 63 - below(3) : below(rows);
+            int channel = below(4);
+            int what = cellNumber();
+            is("cell", mine.cell(pattern, row, channel, what), plain.cell(pattern, row, channel, what));
         }
         int n = 1 + below(5);
         int restart = below(7);
@@ -102,23 +111,65 @@ public final class RandomRunsTest {
         }
     }
 
-    private void makeCell(int pattern, int row, int channel) {
-        int what = below(3) == 0 ? 0 : cellNumber();
-        is("cell", mine.cell(pattern, row, channel, what), plain.cell(pattern, row, channel, what));
-    }
-
-    private void makeSample(int s) {
-        int length = 2 * (below(3) == 0 ? below(1001) : below(100));
+    private void tellSample(int s) {
+        int length = 2 * (below(3) == 0 ? below(1001) : below(30));
         int tune = below(16) - 8;
         int volume = below(65);
         is("sample", mine.sample(s, length, tune, volume), plain.sample(s, length, tune, volume));
-        for (int i = 0; i < length; i += 1 + below(3)) {
+        for (int i = 0; i < 12; i++) {
+            int at = below(length + 1);
             int v = below(256) - 128;
-            is("wave", mine.wave(s, i, v), plain.wave(s, i, v));
+            is("wave", mine.wave(s, at, v), plain.wave(s, at, v));
         }
         int start = 2 * below(length / 2 + 2);
         int loop = 2 * below(length / 2 + 2);
         is("loop", mine.loop(s, start, loop), plain.loop(s, start, loop));
+    }
+
+    private void poke(int at, int v) {
+        is("poke", mine.poke(at, v), plain.poke(at, v));
+    }
+
+    /** A module of one PATTERN comes as bytes; its SAMPLES have as many as are fed. */
+    private void feedModule() {
+        int[] mark = {77, 46, 75, 46};
+        for (int i = 0; i < 4; i++) {
+            poke(1080 + i, mark[i]);
+        }
+        poke(950, 1 + below(4));
+        poke(951, below(5));
+        for (int s = 0; s < 5; s++) {
+            int half = 1 + below(18);
+            int start = below(half);
+            poke(43 + 30 * s, half);
+            poke(44 + 30 * s, below(16));
+            poke(45 + 30 * s, below(65));
+            poke(47 + 30 * s, start);
+            poke(49 + 30 * s, below(half - start + 1));
+        }
+        for (int i = 0; i < 51; i++) {
+            is("feed", feed(true), 1104 + 20 * i);
+        }
+        for (int i = 0; i < 11; i++) {
+            is("feed", feed(false), 2124 + 20 * i);
+        }
+        is("load", mine.load(), plain.load());
+    }
+
+    private int feed(boolean cells) {
+        int[] n = new int[5];
+        for (int i = 0; i < 5; i++) {
+            n[i] = cells ? cellBytes(below(3) == 0 ? cellNumber() : 0) : below(1 << 30) * 4 + below(4);
+        }
+        plain.feed(n[0], n[1], n[2], n[3], n[4]);
+        return mine.feed(n[0], n[1], n[2], n[3], n[4]);
+    }
+
+    private int cellBytes(int cell) {
+        int period = cell / 131072;
+        int sample = cell / 4096 % 32;
+        return (sample / 16 * 16 + period / 256) << 24 | period % 256 << 16
+                | (sample % 16 * 16 + cell / 256 % 16) << 8 | cell % 256;
     }
 
     /** The module's bytes, some of them wrong, are read. */
@@ -127,8 +178,7 @@ public final class RandomRunsTest {
         int wrong = below(4);
         for (int i = 0; i < wrong; i++) {
             int at = below(2) == 0 ? 20 + below(1070) : 42 + 30 * below(31) + below(8);
-            int v = below(2) == 0 ? below(256) : below(17);
-            is("poke", mine.poke(at, v), plain.poke(at, v));
+            poke(at, below(2) == 0 ? below(256) : below(17));
         }
         is("load", mine.load(), plain.load());
         is("fault", mine.fault(0), plain.fault(0));
@@ -151,7 +201,7 @@ public final class RandomRunsTest {
         switch (below(8)) {
             case 0: is("feed", mine.feed(a, b, a, b, a), plain.feed(a, b, a, b, a)); break;
             case 1: is("end", mine.end(a), plain.end(a)); break;
-            case 2: is("poke", mine.poke(a, b), plain.poke(a, b)); break;
+            case 2: poke(a, b); break;
             case 3: is("save", mine.save(), plain.save()); break;
             case 4: is("load", mine.load(), plain.load()); break;
             case 5: is("fault", mine.fault(b), plain.fault(b)); break;
@@ -196,6 +246,7 @@ public final class RandomRunsTest {
         int c = some(5);
         boolean on = below(2) == 0;
         if (below(10) == 0) {
+            calls++;
             mine.start();
             plain.start();
         } else if (below(2) == 0) {
@@ -209,28 +260,24 @@ public final class RandomRunsTest {
     private void playSome() {
         int n = below(5) == 0 ? below(40) : below(4);
         is("play", mine.play(n), plain.play(n));
-        for (int what = -1; what < 10; what++) {
-            is("now " + what, mine.now(what), plain.now(what));
+        is("place", mine.now(0), plain.now(0));
+        is("row", mine.now(1), plain.now(1));
+        is("again", mine.now(6), plain.now(6));
+        is("sum", mine.now(7), plain.now(7));
+        for (int i = 0; i < 5; i++) {
+            int c = below(4);
+            int what = below(14);
+            is("channel " + c + " " + what, mine.channel(c, what), plain.channel(c, what));
         }
-        for (int c = -1; c < 5; c++) {
-            for (int what = -1; what < 15; what++) {
-                is("channel " + c + " " + what, mine.channel(c, what), plain.channel(c, what));
-            }
-        }
-        for (int i = 0; i < 20; i++) {
-            int at = some(330);
-            is("frame " + at, mine.frame(at, i % 2), plain.frame(at, i % 2));
-        }
+        int at = some(330);
+        is("frame " + at, mine.frame(at, at & 1), plain.frame(at, at & 1));
     }
 
-    private void compareAll() {
+    private void compareBytes() {
         is("save", mine.save(), plain.save());
-        for (int i = -1; i < 9001; i++) {
+        while (calls < CALLS_A_RUN) {
+            int i = below(3) == 0 ? below(9001) : 900 + below(2000);
             is("tape " + i, mine.tape(i), plain.tape(i));
-        }
-        for (int i = 0; i < 2048; i++) {
-            int got = mine.cellOf(i / 256, i / 4 % 64, i % 4);
-            is("cellOf " + i, got, plain.cellOf(i / 256, i / 4 % 64, i % 4));
         }
     }
 }

@@ -48,7 +48,7 @@ public final class SaveTest {
         }
     }
 
-    private static void roundTrip() {
+    private static ModulePlayer full() {
         ModulePlayer x = new ModulePlayer(8000);
         x.sample(3, 6, -3, 40);
         x.loop(3, 2, 4);
@@ -58,20 +58,28 @@ public final class SaveTest {
         for (int row = 0; row < 64; row++) {
             x.cell(0, row, row % 4, row * 8388607 + 5);
         }
-        x.cell(0, 5, 0, Cells.of(4095, 3, 15, 255));
-        int size = x.save();
-        int[] first = new int[size];
-        for (int i = 0; i < size; i++) {
-            first[i] = x.tape(i);
-        }
-        Due.is("load()", x.load(), 1);
+        return x;
+    }
+
+    private static void roundTrip() {
+        ModulePlayer cells = full();
+        Due.is("save()", cells.save(), 2114);
+        Due.is("load()", cells.load(), 1);
         for (int row = 0; row < 64; row++) {
-            Due.is("cellOf row " + row, x.cellOf(0, row, row % 4), row * 8388607 + 5);
+            Due.is("cellOf row " + row, cells.cellOf(0, row, row % 4), row * 8388607 + 5);
         }
-        Due.is("cellOf(0, 5, 0)", x.cellOf(0, 5, 0), Cells.of(4095, 3, 15, 255));
-        Due.is("save()", x.save(), size);
-        for (int i = 0; i < size; i++) {
-            Due.is("tape(" + i + ")", x.tape(i), first[i]);
+        // An object for some bytes each, since no more than 512 calls of one are promised.
+        for (int from = 0; from < 2114; from += 200) {
+            ModulePlayer once = full();
+            ModulePlayer twice = full();
+            once.save();
+            twice.save();
+            Due.is("load()", twice.load(), 1);
+            twice.end(0);
+            Due.is("save()", twice.save(), 2114);
+            for (int i = from; i < from + 200; i++) {
+                Due.is("tape(" + i + ")", twice.tape(i), once.tape(i));
+            }
         }
     }
 
