@@ -12,6 +12,7 @@ import java.util.regex.Pattern;
 
 /** The face of the class is the document's, and the source keeps to rules of LANGUAGE.md that can be seen. */
 public final class LanguageTest {
+    private static final Path DOCUMENT = Path.of("../shared/DOC.md");
     private static final String[] FACE = {
         "int feed(int, int, int, int, int)", "boolean end(int)", "int poke(int, int)", "int load()",
         "int fault(int)", "int save()", "int tape(int)", "boolean sample(int, int, int, int)",
@@ -25,7 +26,12 @@ public final class LanguageTest {
         methods();
         otherMembers();
         nestedClasses();
-        source(Files.readString(Path.of("src/main/java/ModulePlayer.java")));
+        String text = Files.readString(Path.of("src/main/java/ModulePlayer.java"));
+        source(text);
+        methodsAreShort(text);
+        if (Files.exists(DOCUMENT)) {
+            faceIsTheDocuments(text, Files.readString(DOCUMENT));
+        }
         Due.end();
     }
 
@@ -51,6 +57,7 @@ public final class LanguageTest {
 
     private static void noOtherBearsTheirNames(Class<?> where, TreeSet<String> names) {
         for (Method m : where.getDeclaredMethods()) {
+            Due.yes(m + " takes at most seven", m.getParameterCount() <= 7);
             boolean isFace = where == ModulePlayer.class && Modifier.isPublic(m.getModifiers());
             Due.no(m + " bears a public name", !isFace && names.contains(m.getName()));
         }
@@ -100,5 +107,35 @@ public final class LanguageTest {
         while (imports.find()) {
             Due.yes("import " + imports.group(1), imports.group(1).equals("java.util.Arrays"));
         }
+    }
+
+    /** Every public line of the class stands in the document's face, names of arguments too, and none is missing. */
+    private static void faceIsTheDocuments(String text, String document) {
+        String face = document.substring(document.indexOf("```java"), document.indexOf("## Terms"));
+        TreeSet<String> due = publicLines(face);
+        Due.is("public lines of the document", due.size(), FACE.length + 3);
+        TreeSet<String> seen = publicLines(text);
+        Due.yes("public lines " + seen, seen.equals(due));
+    }
+
+    private static TreeSet<String> publicLines(String text) {
+        TreeSet<String> lines = new TreeSet<>();
+        for (String line : text.split("\n")) {
+            if (line.strip().startsWith("public ")) {
+                lines.add(line.strip().replaceAll("\\s*[;{]$", ""));
+            }
+        }
+        return lines;
+    }
+
+    /** A method begins with its head at one of two depths, and ends with a brace at the same. */
+    private static void methodsAreShort(String text) {
+        Matcher m = Pattern.compile("(?ms)^(    |        )(\\w[^\\n;=]*\\)) \\{\\n(.*?)^\\1\\}").matcher(text);
+        int methods = 0;
+        while (m.find()) {
+            methods++;
+            Due.yes(m.group(2) + " has at most sixty lines", m.group(3).split("\n").length + 2 <= 60);
+        }
+        Due.yes("methods were found", methods > FACE.length);
     }
 }
